@@ -680,7 +680,8 @@ public final class ClownsMourn {
     }
 
     private static int held(int number, int low, int high) {
-        return Math.min(Math.max(number, low), high);
+        int raised = number < low ? low : number;
+        return raised > high ? high : raised;
     }
 
     private static int at(int[] row, int i) {
@@ -1148,7 +1149,10 @@ public final class ClownsMourn {
                 put(clauses, clauseCount * CLAUSE_WIDTH, first);
                 advance();
                 if (isLaw(first)) {
-                    readLaw(first);
+                    law = first;
+                    put(bounds, (first - EASES) * 2, codeLength);
+                    readSum();
+                    put(bounds, (first - EASES) * 2 + 1, codeLength);
                 } else {
                     readDeed(first);
                 }
@@ -1164,13 +1168,6 @@ public final class ClownsMourn {
         private static boolean beginsClause(int word) {
             return word == DAY || word == MOOD || word == HOUSE || word == FALL
                     || word >= EASES && word <= REST;
-        }
-
-        private void readLaw(int word) {
-            law = word;
-            put(bounds, (word - EASES) * 2, codeLength);
-            readSum();
-            put(bounds, (word - EASES) * 2 + 1, codeLength);
         }
 
         private void readDeed(int word) {
@@ -1497,7 +1494,7 @@ public final class ClownsMourn {
     /** What the laws of a text say of the city as it is; changes nothing of it. */
     private static final class Laws {
         static final int MOST = 1000000;
-        // eight that are open around one another leave at most six numbers each
+        // each of eight that are open around one another leaves at most five numbers, the sum around them two
         static final int STACK_HEIGHT = 64;
 
         private final City city;
@@ -1611,17 +1608,18 @@ public final class ClownsMourn {
         }
 
         private int moodOf(int house) {
-            return city.hasHouse(house) ? city.see(City.MOOD, house) : 0;
+            boolean isTold = house >= 0 && house < at(city.now, City.HOUSES);
+            return isTold ? at(city.now, City.MOOD + house) : 0;
         }
 
         private static int joined(int operation, int left, int right) {
             switch (operation) {
                 case Reader.PLUS:
-                    return held(left + right, -MOST, MOST);
+                    return cut(left + right);
                 case Reader.MINUS:
-                    return held(left - right, -MOST, MOST);
+                    return cut(left - right);
                 case Reader.TIMES:
-                    return product(left, right);
+                    return cut((long) left * right);
                 case Reader.OVER:
                     return right == 0 ? 0 : left / right;
                 case Reader.AND:
@@ -1633,9 +1631,11 @@ public final class ClownsMourn {
             }
         }
 
-        private static int product(int left, int right) {
-            long exact = (long) left * right;
-            return (int) Math.min(Math.max(exact, -MOST), MOST);
+        private static int cut(long exact) {
+            if (exact > MOST) {
+                return MOST;
+            }
+            return exact < -MOST ? -MOST : (int) exact;
         }
 
         private static boolean compares(int operation, int left, int right) {
