@@ -20,6 +20,7 @@ public final class PromisesTest {
         byText();
         sends();
         falls();
+        manyFalls();
         rests();
         days();
         lastDay();
@@ -224,6 +225,10 @@ public final class PromisesTest {
         x.feed(';' << 24, 0, 0, 0, 0);
         x.end(6);
         due("text(): bytes that were cut off are gone", x.text(), 0);
+        write(x, "eases if 1<=");
+        x.end(11);
+        due("text()", x.text(), NONE);
+        due("fault(1): the end, not what was cut off", x.fault(1), 11);
     }
 
     private static void texts() {
@@ -255,6 +260,16 @@ public final class PromisesTest {
         faulty("rest 0;;", 1, 7);
         faulty("Rest 0;", 1, 0);
         faulty("restx 0;", 1, 0);
+        faulty("restA 0;", 1, 0);
+        faulty("restZ 0;", 1, 0);
+        faulty("resta 0;", 1, 0);
+        faulty("restz 0;", 1, 0);
+        faulty("rest@0;", 1, 4);
+        faulty("rest[0;", 1, 4);
+        faulty("rest`0;", 1, 4);
+        faulty("rest{0;", 1, 4);
+        faulty("rest/0;", 1, 4);
+        faulty("rest:0;", 1, 4);
         faulty("rest0;", 0, NONE);
         faulty("rest\t0;", 1, 4);
         faulty("rest 0\r;", 1, 6);
@@ -285,6 +300,8 @@ public final class PromisesTest {
         faulty("eases if 1<2<3 then 1 else 2 end;", 1, 12);
         faulty("eases if 1< =2 then 1 else 2 end;", 1, 12);
         faulty("eases if 1<=2 then 1 else 2 end;", 0, NONE);
+        faulty("eases if 1<=", 1, 12);
+        faulty("eases if 1<", 1, 11);
         faulty("eases if 1=<2 then 1 else 2 end;", 1, 11);
         faulty("eases if 1<2 and not 3#4 or 5=6 then 1 else 2 end;", 0, NONE);
         faulty("eases if 1<2 and then 1 else 2 end;", 1, 17);
@@ -489,6 +506,21 @@ public final class PromisesTest {
         }
         due("LAUGHED at most 99", w.of(0, 4), 99);
         due("book(NONE)", w.book(NONE, 0), 30);
+    }
+
+    private static void manyFalls() {
+        promise = 18;
+        ClownsMourn x = city();
+        x.send(0, 0);
+        read(x, times("fall 0 by 0;", 9) + "day 9;" + times("fall 0 by 0;", 9) + "day 9;" + times("fall 0 by 0;", 3)
+                + "day 3;");
+        for (int i = 0; i < 476; i++) {
+            x.played(0);
+        }
+        due("ofClown(0, 4)", x.ofClown(0, 4), 9996);
+        due("played(0): at its first day clause", x.played(0), 9);
+        due("is(0)", x.is(0), 9999);
+        due("ofClown(0, 4): 9999 at most", x.ofClown(0, 4), 9999);
     }
 
     private static void rests() {
@@ -1339,7 +1371,10 @@ public final class PromisesTest {
         x.bore(6, true);
         x.worth(1, 8);
         x.behind(3, 2);
-        x.grown(1, 2);
+        x.grown(NONE, 0);
+        x.grown(1, 5);
+        x.bore(NONE, true);
+        x.bore(50, false);
         x.house(0, 1);
         x.clown(1, 1);
         x.rest(0);
@@ -1355,6 +1390,7 @@ public final class PromisesTest {
             due("about(4)", x.about(4), 5);
             due("about(5)", x.about(5), 1);
             due("about(6)", x.about(6), 1);
+            due("whose()", x.whose(), 1);
             due("about(7): the tape stays", x.about(7), 4);
             due("fault(0): it stays", x.fault(0), 0);
             due("is(0)", x.is(0), 3);

@@ -1774,6 +1774,9 @@ public final class ClownsMourn {
         abstract int moved(int state, int kind, int depth);
 
         abstract boolean arrived(int state);
+
+        /** Whether a state leads elsewhere when it is come to behind more falls. */
+        abstract boolean changes();
     }
 
     /** A state is a set of moods: one house's alone, or every mood at once. */
@@ -1801,6 +1804,10 @@ public final class ClownsMourn {
 
         boolean arrived(int state) {
             return toGladness ? state == 1 << GLAD_MOOD : Integer.bitCount(state) == 1;
+        }
+
+        boolean changes() {
+            return false;
         }
     }
 
@@ -1838,6 +1845,10 @@ public final class ClownsMourn {
             return state % GRIEFS <= enough;
         }
 
+        boolean changes() {
+            return true;
+        }
+
         void leaveAsItWas(int state) {
             become(state, tired);
         }
@@ -1872,7 +1883,9 @@ public final class ClownsMourn {
             int states = 1;
             for (int depth = 0; depth < most && length == NONE; depth++) {
                 count = 0;
-                Arrays.fill(seen, 0);
+                if (depth == 0 || walk.changes()) {
+                    Arrays.fill(seen, 0);
+                }
                 for (int i = 0; i < states * FALL_KINDS && i / FALL_KINDS < STATES && length == NONE; i++) {
                     long entry = layer[i / FALL_KINDS];
                     int kind = i % FALL_KINDS;
