@@ -160,6 +160,12 @@ public final class EdgesAsksTest {
         due("heavy(589)", y.heavy(589), 60);
         due("heavy(594)", y.heavy(594), 60);
         due("heavy(595)", y.heavy(595), NONE);
+        y.clown(1, 0);
+        y.send(0, 0);
+        y.fall(0, 4);
+        y.rest(0);
+        due("MOOD of the first isn't grief: heavy(229)", y.heavy(229), 0);
+        due("heavy(230)", y.heavy(230), 1);
         ClownsMourn z = houses(6, 38);
         due("heavy(588)", z.heavy(588), 60);
         due("heavy(589)", z.heavy(589), NONE);
@@ -353,6 +359,11 @@ public final class EdgesAsksTest {
         Check.rule(z, "eases tired;");
         due("0 and 1 and .. 8", z.comfort(0, 0, NONE), 9);
         due("1 less", z.comfort(0, 35, NONE), 2);
+        ClownsMourn v = still(pair(50, 1));
+        Check.rule(v, "eases if tired=8 then 5 else 0 end;");
+        due("by the ninth alone, though nothing changes by the eight", v.comfort(0, 45, NONE), 9);
+        due("the ninth", v.comfort(0, 45, 8), 0);
+        due("more than that", v.comfort(0, 44, NONE), -2);
         ClownsMourn w = pair(37, 1);
         Check.rule(w, "eases tired;");
         due("one more than 36", w.comfort(0, 0, NONE), -2);
@@ -580,6 +591,19 @@ public final class EdgesAsksTest {
 
     private static void bearsBelow() {
         Check.by("a HOUSE that bears b (0 .. 100) laughs at GRIEF below b, else not");
+        for (int b = 0; b <= 100; b++) {
+            ClownsMourn y = new ClownsMourn();
+            if (b > 0) {
+                y.bore(b - 1, true);
+            }
+            if (b < 100) {
+                y.bore(b, false);
+            }
+            due("just " + b + ": errors", y.bears(0), 0);
+            due("just " + b + ": least", y.bears(1), b);
+            due("just " + b + ": greatest", y.bears(2), b);
+            due("just " + b + ": no TRIAL more", y.next(99), NONE);
+        }
         bears(0, true, 1, 100);
         bears(0, false, 0, 0);
         bears(1, true, 2, 100);
@@ -919,6 +943,15 @@ public final class EdgesAsksTest {
         }
         x.grown(1, 8);
         due("but for the eighth", x.whose(), 0);
+        for (int house = 0; house < 6; house++) {
+            for (int by = 0; by <= 9; by++) {
+                ClownsMourn y = houses(6, 0);
+                Check.read(y, "grows if house=" + house + " then " + by + " else " + (9 - by) + " end;");
+                Check.read(y, "grows if house=" + house + " then " + (9 - by) + " else " + by + " end;");
+                y.grown(house, by);
+                due("house " + house + " by " + by, y.whose(), 1);
+            }
+        }
     }
 
     private static void clocks() {

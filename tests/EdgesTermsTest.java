@@ -21,6 +21,7 @@ public final class EdgesTermsTest {
         fallsUpTo9999();
         griefNinetyNineAtMost();
         tiredLessByDay();
+        dayOfAFullCity();
         dayTheLast();
         manyDaysAtOnce();
         latestThirtyLaughs();
@@ -449,6 +450,50 @@ public final class EdgesTermsTest {
         due("and the first", y.ofClown(0, 2), 1);
     }
 
+    private static void dayOfAFullCity() {
+        Check.by("A DAY: by HOUSES: GRIEF ..; by CLOWNS: .. TIRED ..; DAY is one more: and nothing else");
+        ClownsMourn x = new ClownsMourn();
+        for (int i = 0; i < 6; i++) {
+            x.house(i % 4, 50 + i);
+        }
+        for (int i = 0; i < 5; i++) {
+            x.clown(i + 1, i);
+        }
+        Check.rule(x, "laughs 10;eases 1;");
+        for (int i = 0; i < 5; i++) {
+            x.send(i, 5 - i);
+            x.fall(i, i);
+        }
+        x.rest(0);
+        x.rest(4);
+        x.day(1);
+        int[] grief = {51, 51, 51, 52, 53, 55};
+        int[] mood = {0, 5, 4, 3, 2, 1};
+        int[] clock = {NONE, 4, 3, 2, 1, 0};
+        int[] there = {0, 0, 8, 4, 2, 0};
+        for (int i = 0; i < 6; i++) {
+            due("KIND of " + i, x.of(i, 0), i % 4);
+            due("GRIEF of " + i, x.of(i, 1), grief[i]);
+            due("MOOD of " + i, x.of(i, 2), mood[i]);
+            due("CLOCK of " + i, x.of(i, 3), clock[i]);
+            due("LAUGHED of " + i, x.of(i, 4), i == 0 ? 0 : 1);
+            due("CLOWNS at " + i, x.of(i, 6), there[i]);
+        }
+        int[] at = {NONE, 4, 3, 2, NONE};
+        for (int i = 0; i < 5; i++) {
+            due("SKILL of " + i, x.ofClown(i, 0), i + 1);
+            due("AGE of " + i, x.ofClown(i, 1), i);
+            due("TIRED of " + i, x.ofClown(i, 2), 0);
+            due("where " + i + " is", x.ofClown(i, 3), at[i]);
+            due("FALLS of " + i, x.ofClown(i, 4), 1);
+        }
+        due("DAY", x.is(0), 1);
+        due("BOOK", x.book(NONE, 0), 5);
+        due("STEPS", x.about(4), 13);
+        due("HOUSES", x.about(0), 6);
+        due("CLOWNS", x.about(1), 5);
+    }
+
     private static void dayTheLast() {
         Check.by("DAY is one more (at 9999 none can pass)");
         ClownsMourn x = Check.city();
@@ -531,6 +576,26 @@ public final class EdgesTermsTest {
         due("taken back: 30", x.book(NONE, 0), 30);
         due("the eldest is there again", x.book(0, 0), 0);
         due("the latest is as ahead", x.book(29, 0), 29);
+        theWholeBook();
+    }
+
+    private static void theWholeBook() {
+        ClownsMourn x = Check.ruledCity("laughs 10;");
+        x.send(0, 0);
+        x.send(1, 1);
+        for (int laughs = 1; laughs <= 70; laughs++) {
+            x.fall(laughs % 2, 0);
+            x.day(1);
+            if (laughs == 29 || laughs == 30 || laughs == 31 || laughs == 70) {
+                int first = Math.max(laughs - 30, 0);
+                due("how many of " + laughs, x.book(NONE, 0), laughs - first);
+                for (int i = 0; i < laughs - first; i++) {
+                    due("DAY of the " + i + "-th of " + laughs, x.book(i, 0), first + i);
+                    due("HOUSE of the " + i + "-th of " + laughs, x.book(i, 1), (first + i + 1) % 2);
+                    due("CLOWN of the " + i + "-th of " + laughs, x.book(i, 2), (first + i + 1) % 2);
+                }
+            }
+        }
     }
 
     private static void latestThirtySteps() {
@@ -737,37 +802,47 @@ public final class EdgesTermsTest {
         // even x come second: the seed's own draw is a DAY or can't be; all that is done by 2 draws is told by formula
         int[] seen = new int[6];
         for (int seed = 0; seed <= 3000; seed++) {
-            int first = seed * 2 + 179;
-            int x = Check.renewed(first);
-            if (first % 6 != 5) {
-                continue;
+            if ((seed * 2 + 179) % 6 == 5) {
+                for (int count = 1; count <= 3; count++) {
+                    secondDeed(seed, count, seed % count);
+                }
+                seen[Check.renewed(seed * 2 + 179) % 6]++;
             }
-            ClownsMourn y = Check.city();
-            y.house(1, 50);
-            y.clown(2, 2);
-            y.send(0, 1);
-            y.send(1, 1);
-            y.send(2, 1);
-            y.decades(seed, 2);
-            int clown = x % 3;
-            int at = 1;
-            int mood = 0;
-            if (x % 6 == 0) {
-                at = x / 6 % 3;
-            } else if (x % 6 == 4 && x % 8 == 0) {
-                at = NONE;
-            } else if (x % 6 >= 1 && x % 6 <= 3) {
-                mood = (x % 5 + 1) % 10;
-            }
-            seen[x % 6]++;
-            due("where it is behind x = " + x, y.ofClown(clown, 3), at);
-            due("MOOD behind x = " + x, y.of(1, 2), mood);
-            due("FALLS behind x = " + x, y.ofClown(clown, 4), mood == 0 ? 0 : 1);
-            due("DAY behind x = " + x, y.is(0), x % 6 == 5 ? 2 : 1);
-            due("the others are where they were", y.ofClown((clown + 1) % 3, 3) + y.ofClown((clown + 2) % 3, 3), 2);
         }
         for (int deed = 0; deed < 6; deed++) {
             due("x mod 6 = " + deed + " was drawn", seen[deed] > 0, true);
+        }
+    }
+
+    /** So many houses and clowns, all clowns at one house: what is done by the second draw of this seed. */
+    private static void secondDeed(int seed, int count, int house) {
+        int x = Check.renewed(seed * 2 + 179);
+        ClownsMourn y = new ClownsMourn();
+        for (int i = 0; i < count; i++) {
+            y.house(0, 50);
+            y.clown(1, 0);
+        }
+        for (int i = 0; i < count; i++) {
+            y.send(i, house);
+        }
+        y.decades(seed, 2);
+        int clown = x % count;
+        int at = house;
+        int mood = 0;
+        if (x % 6 == 0) {
+            at = x / 6 % count;
+        } else if (x % 6 == 4 && x % 8 == 0) {
+            at = NONE;
+        } else if (x % 6 >= 1 && x % 6 <= 3) {
+            mood = x % 5 + 1;
+        }
+        String behind = " behind x = " + x + " of " + count;
+        due("where it is" + behind, y.ofClown(clown, 3), at);
+        due("MOOD" + behind, y.of(house, 2), mood);
+        due("FALLS" + behind, y.ofClown(clown, 4), mood == 0 ? 0 : 1);
+        due("DAY" + behind, y.is(0), x % 6 == 5 ? 2 : 1);
+        for (int i = 1; i < count; i++) {
+            due("another one" + behind, y.ofClown((clown + i) % count, 3), house);
         }
     }
 
@@ -881,6 +956,20 @@ public final class EdgesTermsTest {
             y.image();
             return y;
         }));
+        ClownsMourn w = Check.city();
+        Check.read(w, "grows 3;");
+        w.bore(5, true);
+        w.grown(0, 3);
+        w.image();
+        w.bore(NONE, true);
+        w.bore(70, false);
+        w.grown(NONE, 0);
+        w.grown(0, 4);
+        due("another TRIAL", w.bears(1), 0);
+        due("another one is GROWN", w.whose(), 0);
+        w.back();
+        due("TRIALS are so again", w.bears(1), 6);
+        due("GROWN is so again", w.whose(), 1);
         ClownsMourn z = Check.city();
         for (int i = 0; i < 3; i++) {
             Check.read(z, "grows " + i + ";");

@@ -25,6 +25,7 @@ public final class EdgesTextsTest {
         clausesUpTo24();
         firstFault();
         leastFaultOfOne();
+        names();
         holdBetween();
         moodsOfHouses();
         comparisons();
@@ -112,6 +113,15 @@ public final class EdgesTextsTest {
         x.end(6);
         due("its first 6", x.text(), NONE);
         due("fault(1): the length", x.fault(1), 6);
+        String[] cut = {"rest 0 ;", "dayx", "rest 04", "rest 0\n;", "day 1;;", "mood 0 by 1 to 2;"};
+        int[] length = {6, 3, 6, 6, 5, 10};
+        for (int i = 0; i < cut.length; i++) {
+            Check.write(x, cut[i]);
+            x.end(length[i]);
+            due("'" + cut[i] + "' cut off at " + length[i], x.text(), NONE);
+            due("fault(0)", x.fault(0), 1);
+            due("fault(1): the length", x.fault(1), length[i]);
+        }
         Check.write(x, "day 12;");
         x.end(5);
         Check.add(x, ";");
@@ -614,6 +624,49 @@ public final class EdgesTextsTest {
         due(sum, x.eased(0, 2), want);
     }
 
+    private static void names() {
+        Check.by("NAMES: day, kind, grief, mood, laughed, house in all; skill, age, tired, fall, who in eases, laughs; there in grows");
+        ClownsMourn x = new ClownsMourn();
+        x.house(0, 0);
+        x.house(3, 99);
+        x.clown(1, 1);
+        x.clown(9, 98);
+        x.send(1, 1);
+        x.send(0, 1);
+        Check.rule(x, "laughs 10;eases 1;");
+        x.fall(1, 4);
+        x.fall(1, 1);
+        x.day(12);
+        x.fall(1, 0);
+        x.image();
+        String[] names = {"day", "kind", "grief", "mood", "laughed", "house", "skill", "age", "tired", "fall", "who"};
+        int[] want = {12, 3, 96, 8, 3, 1, 9, 98, 1, 4, 1};
+        for (int i = 0; i < names.length; i++) {
+            x.back();
+            Check.rule(x, "eases " + names[i] + ";");
+            due("eases " + names[i], x.eased(1, 4), want[i]);
+        }
+        // in laughs GRIEF (1 less by then) and MOOD are as then, all else as yet
+        want[2] = 95;
+        want[3] = 3;
+        for (int i = 0; i < names.length; i++) {
+            x.back();
+            Check.rule(x, "eases 1;laughs if " + names[i] + "=" + want[i] + " then 6 else 5 end;");
+            due("laughs by " + names[i], x.laughs(1, 4), 6);
+        }
+        want[2] = 96;
+        want[3] = 8;
+        for (int i = 0; i < 6; i++) {
+            x.back();
+            Check.rule(x, "grows if " + names[i] + "=" + want[i] + " then 6 else 5 end;");
+            due("grows by " + names[i], x.of(1, 5), 6);
+        }
+        x.back();
+        Check.rule(x, "grows there;");
+        due("two there", x.of(1, 5), 2);
+        due("none there", x.of(0, 5), 0);
+    }
+
     private static void holdBetween() {
         Check.by("hold: the first, but not below the second, and not above the third: that, if the second is above it");
         sum("hold 6 from 7 to 9", 7);
@@ -637,23 +690,28 @@ public final class EdgesTextsTest {
 
     private static void moodsOfHouses() {
         Check.by("moods ONE (MOOD of the HOUSE of that number; 0 if none such is told)");
+        // all that could be taken for a MOOD beside these (GRIEF, CLOCK, TIRED) isn't 0
         ClownsMourn x = new ClownsMourn();
-        x.clown(1, 0);
-        for (int i = 0; i < 6; i++) {
-            due("a house", x.house(0, 0), i);
-            x.mood(0, i, i);
-            x.mood(0, 0, i + 1);
-            x.send(0, i);
-            x.fall(0, 0);
-            due("MOOD", x.of(i, 2), i + 1);
+        for (int i = 0; i < 5; i++) {
+            x.clown(1, 50);
         }
+        Check.rule(x, "laughs 10;eases 1;");
+        for (int i = 0; i < 6; i++) {
+            due("a house", x.house(3, 80 + i), i);
+            x.mood(0, 0, i + 1);
+            x.send(4, i);
+            x.fall(4, 0);
+            due("MOOD", x.of(i, 2), i + 1);
+            due("CLOCK", x.of(i, 3), 4);
+        }
+        x.by(NONE);
         String[] numbers = {"-1", "0", "1", "2", "3", "4", "5", "6", "7", "9999", "(0-1)", "(1000*1000)", "(-1000*1000)"};
         int[] want = {0, 1, 2, 3, 4, 5, 6, 0, 0, 0, 0, 0, 0};
         x.image();
         for (int i = 0; i < numbers.length; i++) {
             x.back();
-            Check.rule(x, "eases moods " + numbers[i] + ";");
-            due("moods " + numbers[i], x.eased(0, 0), want[i]);
+            Check.rule(x, "eases 20+moods " + numbers[i] + ";");
+            due("20+moods " + numbers[i], x.eased(4, 0), 20 + want[i]);
         }
         ClownsMourn y = Check.city();
         y.send(0, 1);
@@ -848,6 +906,13 @@ public final class EdgesTextsTest {
         ClownsMourn x = new ClownsMourn();
         Check.read(x, "");
         due("an empty one", x.played(0), NONE);
+        Check.read(x, "eases 1;laughs 2;grows 3;mood 9 by 4 to 7;mood 8 by 3 to 9;");
+        due("MOODS alone", x.played(1), NONE);
+        due("told(4, 9)", x.told(4, 9), 7);
+        due("told(3, 8)", x.told(3, 8), 9);
+        due("told(4, 0)", x.told(4, 0), 5);
+        x.back();
+        Check.read(x, "");
         Check.read(x, "eases 1;laughs 2;grows 3;");
         due("laws alone", x.played(1), NONE);
         due("it doesn't rule by that", x.about(3), NONE);
