@@ -383,15 +383,20 @@ public final class EdgesTermsTest {
         for (int i = 0; i < 476; i++) {
             x.played(0);
         }
+        // few are asked, so that no more than 512 calls are made
         due("FALLS", x.ofClown(0, 4), 9996);
-        due("DAY", x.is(0), 9996);
-        for (int i = 1; i <= 9; i++) {
-            due("a fall", x.fall(0, 0) != NONE, true);
-            due("FALLS", x.ofClown(0, 4), Math.min(9996 + i, 9999));
-        }
-        due("TIRED all the same", x.ofClown(0, 2), 9);
-        due("taken back", x.undo(), 29);
+        x.fall(0, 0);
+        x.fall(0, 0);
+        due("FALLS", x.ofClown(0, 4), 9998);
+        x.fall(0, 0);
         due("FALLS", x.ofClown(0, 4), 9999);
+        due("a fall can be all the same", x.fall(0, 0) != NONE, true);
+        due("FALLS", x.ofClown(0, 4), 9999);
+        due("TIRED", x.ofClown(0, 2), 4);
+        x.undo();
+        due("FALLS, that one taken back", x.ofClown(0, 4), 9999);
+        x.undo();
+        due("FALLS, another one taken back", x.ofClown(0, 4), 9998);
     }
 
     private static void griefNinetyNineAtMost() {
@@ -586,7 +591,7 @@ public final class EdgesTermsTest {
         for (int laughs = 1; laughs <= 70; laughs++) {
             x.fall(laughs % 2, 0);
             x.day(1);
-            if (laughs == 29 || laughs == 30 || laughs == 31 || laughs == 70) {
+            if (laughs == 30 || laughs == 31 || laughs == 70) {
                 int first = Math.max(laughs - 30, 0);
                 due("how many of " + laughs, x.book(NONE, 0), laughs - first);
                 for (int i = 0; i < laughs - first; i++) {
@@ -804,7 +809,7 @@ public final class EdgesTermsTest {
         for (int seed = 0; seed <= 3000; seed++) {
             if ((seed * 2 + 179) % 6 == 5) {
                 for (int count = 1; count <= 3; count++) {
-                    secondDeed(seed, count, seed % count);
+                    secondDeed(seed, count, seed % (count + 1) - 1);
                 }
                 seen[Check.renewed(seed * 2 + 179) % 6]++;
             }
@@ -814,7 +819,7 @@ public final class EdgesTermsTest {
         }
     }
 
-    /** So many houses and clowns, all clowns at one house: what is done by the second draw of this seed. */
+    /** So many houses and clowns, all clowns at one house or in the yard: what the second draw of this seed does. */
     private static void secondDeed(int seed, int count, int house) {
         int x = Check.renewed(seed * 2 + 179);
         ClownsMourn y = new ClownsMourn();
@@ -833,12 +838,12 @@ public final class EdgesTermsTest {
             at = x / 6 % count;
         } else if (x % 6 == 4 && x % 8 == 0) {
             at = NONE;
-        } else if (x % 6 >= 1 && x % 6 <= 3) {
+        } else if (x % 6 >= 1 && x % 6 <= 3 && house != NONE) {
             mood = x % 5 + 1;
         }
         String behind = " behind x = " + x + " of " + count;
         due("where it is" + behind, y.ofClown(clown, 3), at);
-        due("MOOD" + behind, y.of(house, 2), mood);
+        due("MOOD" + behind, y.of(Math.max(house, 0), 2), mood);
         due("FALLS" + behind, y.ofClown(clown, 4), mood == 0 ? 0 : 1);
         due("DAY" + behind, y.is(0), x % 6 == 5 ? 2 : 1);
         for (int i = 1; i < count; i++) {
