@@ -16,6 +16,9 @@ public final class EdgesTextsTest {
         signs();
         cutShort();
         noToken();
+        oneLeftOut();
+        oneTwice();
+        asksWithoutSign();
         numbersOfClauses();
         numbersOfSums();
         openAroundOneAnother();
@@ -413,6 +416,69 @@ public final class EdgesTextsTest {
             faulty("eases moods " + word + " 1;", 1, 12);
             faulty("eases -" + word + " 1;", 1, 7);
         }
+    }
+
+    /** Where these are left out or stand twice, the text may be right all the same, or the fault comes later. */
+    private static boolean mayBeLeftOut(String[] tokens, int i) {
+        String token = tokens[i];
+        // a - may be of one ONE, or between two
+        boolean minus = tokens[i + 1].equals("-") || token.equals("-") && tokens[i + 1].equals("2");
+        return minus || token.equals("(") || token.equals(")") || token.equals("hold") || token.equals("moods")
+                || token.equals("not");
+    }
+
+    private static boolean mayStandTwice(String token) {
+        return token.equals("-") || token.equals("(") || token.equals("not") || token.equals("moods")
+                || token.equals("hold") || token.equals("if");
+    }
+
+    private static void oneLeftOut() {
+        Check.by("1 it can't stand there: what comes behind a TOKEN that is left out");
+        for (String whole : WHOLE) {
+            String[] tokens = whole.split(" ");
+            int place = 0;
+            for (int i = 0; i + 1 < tokens.length; i++) {
+                int next = place + tokens[i].length() + 1;
+                if (!mayBeLeftOut(tokens, i)) {
+                    faulty(whole.substring(0, place) + whole.substring(next), 1, place);
+                }
+                place = next;
+            }
+        }
+    }
+
+    private static void oneTwice() {
+        Check.by("1 it can't stand there: a TOKEN for the second time");
+        for (String whole : WHOLE) {
+            int place = 0;
+            for (String token : whole.split(" ")) {
+                int next = place + token.length() + 1;
+                if (!mayStandTwice(token)) {
+                    faulty(whole.substring(0, place) + token + " " + whole.substring(place), 1, next);
+                }
+                place = next;
+            }
+        }
+    }
+
+    private static void asksWithoutSign() {
+        Check.by("ASK: not ASK, or SUM one of < <= > >= = # (unlike) SUM");
+        faulty("eases if then 2 else 3 end;", 1, 9);
+        faulty("eases if 1 then 2 else 3 end;", 1, 11);
+        faulty("eases if mood then 2 else 3 end;", 1, 14);
+        faulty("eases if (1) then 2 else 3 end;", 1, 13);
+        faulty("eases if (1=1) then 2 else 3 end;", 1, 11);
+        faulty("eases if not 1 then 2 else 3 end;", 1, 15);
+        faulty("eases if not then 2 else 3 end;", 1, 13);
+        faulty("eases if 1 and 1=1 then 2 else 3 end;", 1, 11);
+        faulty("eases if 1 or 1=1 then 2 else 3 end;", 1, 11);
+        faulty("eases if 1=1 and 2 then 2 else 3 end;", 1, 19);
+        faulty("eases if 1=1 or 2 then 2 else 3 end;", 1, 18);
+        faulty("eases if 1=1 or then 2 else 3 end;", 1, 16);
+        faulty("eases if or 1=1 then 2 else 3 end;", 1, 9);
+        faulty("eases if 1= then 2 else 3 end;", 1, 12);
+        faulty("eases if =1 then 2 else 3 end;", 1, 9);
+        faulty("eases if 1=1=1 then 2 else 3 end;", 1, 12);
     }
 
     private static void number(String before, int low, int high, String after) {
